@@ -1407,6 +1407,7 @@ public final class HexPond {
         /** For each player and shore: how many empty cells a way has from there up to each cell. */
         private final int[][] distances = new int[PLAYERS * SHORES][MOST_CELLS];
         private final int[] seenChanges = new int[PLAYERS * SHORES];
+        private final int[] needs = new int[PLAYERS];
 
         /** Has room for all cells ahead of its middle, and for all behind it. */
         private final int[] queue = new int[2 * MOST_CELLS];
@@ -1432,13 +1433,7 @@ public final class HexPond {
         }
 
         int needed(int player) {
-            int fewest = UNREACHED;
-            for (int cell = 0; cell < pond.cells(); cell++) {
-                if (pond.isAtShore(player, 1, cell)) {
-                    fewest = Math.min(fewest, distance(player, 0, cell));
-                }
-            }
-            return fewest == UNREACHED ? NEEDS_WITHOUT_WAY : fewest;
+            return player >= 0 && player < needs.length ? needs[player] : NEEDS_WITHOUT_WAY;
         }
 
         /** What a way through the cell needs; NONE if there is none. */
@@ -1519,6 +1514,19 @@ public final class HexPond {
                     reach(player, distance, pond.beside(cell, side), distance[cell]);
                 }
             }
+            if (shore == 0 && player >= 0 && player < needs.length) {
+                needs[player] = fewestAtOtherShore(player);
+            }
+        }
+
+        private int fewestAtOtherShore(int player) {
+            int fewest = UNREACHED;
+            for (int cell = 0; cell < pond.cells(); cell++) {
+                if (pond.isAtShore(player, 1, cell)) {
+                    fewest = Math.min(fewest, distance(player, 0, cell));
+                }
+            }
+            return fewest == UNREACHED ? NEEDS_WITHOUT_WAY : fewest;
         }
 
         private void reach(int player, int[] distance, int cell, int before) {
