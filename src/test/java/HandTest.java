@@ -9,6 +9,7 @@ public final class HandTest {
         stonesAreTakenBackFromTheLatest();
         stonesByPlansAreTakenBack();
         aLongGameIsTakenBack();
+        theLastOfAllCellsEndsAGame();
         Due.end("HandTest");
     }
 
@@ -75,6 +76,38 @@ public final class HandTest {
         Due.same("takeBack() by plans", pond.takeBack(), 8);
         Due.same("takeBack() by hand", pond.takeBack(), 0);
         Due.refused(pond, "takeBack()", STATE, pond::takeBack);
+    }
+
+    /** The middle decides: blue has the rest of its column, red the rest of its row. */
+    private static void theLastOfAllCellsEndsAGame() {
+        HexPond pond = Due.game("pond 9 by 9;");
+        int[][] cells = new int[2][40];
+        int[] found = new int[2];
+        for (int cell = 0; cell < 81; cell++) {
+            int column = cell % 9;
+            int row = cell / 9;
+            int player = row == 4 ? 0 : column == 4 ? 1 : row < 4 ? 0 : 1;
+            if (cell != 40) {
+                cells[player][found[player]] = cell;
+                found[player]++;
+            }
+        }
+        for (int i = 0; i < 80; i++) {
+            int cell = cells[i % 2][i / 2];
+            Due.same("layStone()", pond.layStone(cell % 9, cell / 9), i % 2);
+            Due.same("isOver()", pond.isOver(), false);
+        }
+        Due.same("mustPlay() has a winning cell", pond.isWinningCell(0, 4, 4) && pond.isWinningCell(1, 4, 4), true);
+        Due.same("bestCell()", pond.bestCell(), 40);
+        Due.same("layStone(4, 4)", pond.layStone(4, 4), 0);
+        Due.same("hasWon(0)", pond.hasWon(0), true);
+        Due.same("stonesToTakeBack()", pond.stonesToTakeBack(), 81);
+        Due.same("emptyCells()", pond.emptyCells(), 0);
+        Due.same("winningCells(0)", pond.winningCells(0), 0);
+        Due.same("stonesByPlans()", pond.stonesByPlans(), 0);
+        Due.same("takeBack()", pond.takeBack(), 40);
+        Due.same("stonesToTakeBack()", pond.stonesToTakeBack(), 80);
+        Due.same("isOver()", pond.isOver(), false);
     }
 
     private static void aLongGameIsTakenBack() {

@@ -38,6 +38,12 @@ public final class LanguageTest {
         Due.error("pond3 by 4;", 1, 0);
         Due.error("pond 3 by4;", 1, 7);
         Due.error("planred win;", 1, 0);
+        Due.error("plan red winz;", 1, 9);
+        Due.error("plan red wina;", 1, 9);
+        Due.error("plan red win0;", 1, 9);
+        Due.error("plan red win9;", 1, 9);
+        Due.error("plan red wi n;", 1, 9);
+        Due.error("0pond 3 by 3;", 1, 0);
         Due.error("plan red win when 1< =2;", 1, 21);
         Due.error("plan red win when 1> =2;", 1, 21);
         Due.error("plan red win when 1=<2;", 1, 20);
@@ -97,6 +103,8 @@ public final class LanguageTest {
         Due.error("plan red win when turn red<2;", 1, 23);
         Due.error("plan red win when min(1)<2;", 1, 23);
         Due.error("plan red win when min 1,2<2;", 1, 22);
+        Due.error("plan red win when min<2;", 1, 21);
+        Due.error("plan red win when turn+max=2;", 1, 26);
         Due.error("plan red win when max(1,2,3)<2;", 1, 25);
         Due.error("plan red win when ()<2;", 1, 19);
         Due.error("plan red win when 1+<2;", 1, 20);
@@ -122,6 +130,7 @@ public final class LanguageTest {
         Due.game(plan + Due.many("min(1,", 8) + "2" + Due.many(")", 8) + "<2;");
         Due.error(plan + Due.many("max(1,", 9) + "2" + Due.many(")", 9) + "<2;", 1, 18 + 6 * 8 + 3);
         Due.game(plan + Due.many("max(", 8) + "2" + Due.many(",1)", 8) + "<2;");
+        Due.error(plan + Due.many("min(", 9) + "2" + Due.many(",1)", 9) + "<2;", 1, 18 + 4 * 8 + 3);
         Due.game(plan + "not [not [not [not [1<2]]]];");
         Due.error(plan + "not [not [not [not [(1)<2]]]];", 1, 18 + 20);
         Due.error(plan + "not [not [not [not [1<-2]]]];", 1, 18 + 22);
@@ -240,6 +249,12 @@ public final class LanguageTest {
         Due.same("emptyCells()", pond.emptyCells(), 48);
         Due.same("ownerOf(6, 6)", pond.ownerOf(6, 6), 1);
         Due.refused(pond, "takeBack()", IllegalStateException.class, pond::takeBack);
+        String sum = "1" + Due.many("+1", 190);
+        for (int time = 0; time < 5; time++) {
+            Due.same("a long plan, time and again",
+                    Due.teach(pond, "plan red at " + sum + "," + time + ";"), 0);
+            Due.same("plannedCell()", pond.plannedCell(), 191 % 7 + 7 * time);
+        }
         Due.same("teach() of the empty tape", pond.teach(), 0);
         Due.same("digest()", pond.digest(), new HexPond().digest());
     }

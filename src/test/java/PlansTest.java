@@ -40,6 +40,8 @@ public final class PlansTest {
         planned(two + "plan red win;", 2);
         planned(two + "stone blue 2,0;plan red win;", 5);
         planned("pond 3 by 3;plan red win;", -1);
+        planned("pond 3 by 3;stone red 1,0;stone red 2,0;stone blue 2,1;stone blue 2,2;plan red win;", 0);
+        planned("pond 3 by 3;stone blue 0,1;stone blue 0,2;stone red 2,2;stone red 2,1;plan red guard;", 0);
         planned("pond 3 by 3;stone red 0,1;stone red 1,1;plan blue win;", -1);
         planned("pond 3 by 3;stone red 0,1;stone red 2,2;stone blue 1,1;stone blue 0,2;stone red 0,0;plan blue win;", 1);
     }
@@ -191,6 +193,10 @@ public final class PlansTest {
         holds("not [1=2 and 1=2]", true);
         holds("not 1=1 or 1=1", true);
         holds("not [1=1 or 1=1]", false);
+        holds("1<2 and 3>2 and 1<=2 and 3>=2 and 2=2 and not won red and 1<2", true);
+        holds("not 1<2 or not 3>2 or not 1<=2 or not 3>=2 or not 2=2 or won red", false);
+        planned("pond 3 by 3;stone red 0,1;stone red 1,1;plan blue at 0,0 when won red;", -1);
+        planned("pond 3 by 3;stone red 0,1;stone red 1,1;plan blue at 0,0 when needs red=1;", 0);
     }
 
     private static final String RACE = "pond 3 by 3;plan red at turn/2,1;plan blue at turn/2,0;";
@@ -267,6 +273,10 @@ public final class PlansTest {
         Due.refused(none, "mustPlay() with none to guard", STATE, none::mustPlay);
         HexPond over = Due.game("pond 3 by 3;stone red 0,1;stone red 1,1;stone red 2,1;stone blue 2,2;");
         Due.refused(over, "mustPlay() when the game is over", STATE, over::mustPlay);
+        HexPond last = Due.game("pond 3 by 3;stone blue 1,0;stone blue 1,1;stone blue 1,2;stone blue 0,0;"
+                + "stone red 0,1;stone red 0,2;stone red 2,0;stone red 2,1;");
+        Due.same("the one cell left", last.winningCells(1), 1);
+        Due.refused(last, "mustPlay() when the game is over with a cell left", STATE, last::mustPlay);
         HexPond red = Due.game("pond 3 by 3;stone blue 1,0;stone blue 1,2;stone red 0,0;");
         red.layStone(2, 2);
         Due.same("mustPlay() is for the player in turn", red.playerInTurn(), 0);
@@ -286,8 +296,37 @@ public final class PlansTest {
         best("pond 3 by 3;stone red 0,1;stone red 1,1;stone blue 0,0;stone blue 1,0;", 2);
         best("pond 3 by 3;stone red 0,1;stone red 1,1;stone blue 2,0;", 5);
         best("pond 3 by 3;stone red 0,1;stone red 1,1;stone blue 2,0;stone blue 0,0;", 5);
+        best("pond 3 by 3;stone blue 1,0;stone blue 1,1;", 5);
+        bestByHand(POSITION);
+        bestByHand(POSITION + "stone red 4,4;stone red 3,4;stone red 5,4;");
+        bestByHand("pond 4 by 3;stone blue 0,0;stone blue 1,1;");
+        bestByHand("pond 4 by 3;stone red 0,0;stone red 1,1;stone red 3,1;");
+        bestByHand("pond 9 by 3;stone red 4,0;stone red 4,1;stone blue 0,0;stone blue 7,2;");
+        bestByHand("pond 3 by 9;stone blue 0,4;stone blue 1,4;stone red 1,6;stone red 2,2;stone red 1,1;");
         HexPond over = Due.game("pond 3 by 3;stone red 0,1;stone red 1,1;stone red 2,1;");
         Due.refused(over, "bestCell() when the game is over", STATE, over::bestCell);
+    }
+
+    /** The best cell is found once more with stones laid by hand, where no stone ends the game. */
+    private static void bestByHand(String game) {
+        HexPond pond = Due.game(game);
+        int player = pond.playerInTurn();
+        int due = -1;
+        int most = 0;
+        for (int cell = 0; cell < pond.columns() * pond.rows(); cell++) {
+            int column = cell % pond.columns();
+            int row = cell / pond.columns();
+            if (pond.isEmpty(column, row)) {
+                pond.layStone(column, row);
+                int lead = pond.stonesNeeded(1 - player) - pond.stonesNeeded(player);
+                pond.takeBack();
+                if (due < 0 || lead > most) {
+                    due = cell;
+                    most = lead;
+                }
+            }
+        }
+        best(game, due);
     }
 
     private static void meanGroupIsTheMean() {

@@ -11,6 +11,7 @@ public final class WaysTest {
         withoutAWay();
         winningCellsJoinTheShores();
         whoHasWonWinsWithEachCell();
+        eachCallSeesTheLatestStones();
         wrongPlayersAndCells();
         Due.end("WaysTest");
     }
@@ -92,6 +93,10 @@ public final class WaysTest {
         Due.same("a winning cell between two groups", blue.winningCells(1), 1);
         Due.same("isWinningCell(1, 1, 1)", blue.isWinningCell(1, 1, 1), true);
         Due.same("isWinningCell(0, 1, 1)", blue.isWinningCell(0, 1, 1), false);
+        HexPond corner = Due.game("pond 3 by 3;stone red 1,0;stone red 2,0;");
+        Due.same("winningCells() with the corner", corner.winningCells(0), 2);
+        Due.same("isWinningCell(0, 0, 0)", corner.isWinningCell(0, 0, 0), true);
+        Due.same("isWinningCell(0, 0, 1)", corner.isWinningCell(0, 0, 1), true);
         HexPond taken = Due.game("pond 3 by 3;stone blue 1,0;stone blue 1,2;stone red 1,1;");
         Due.same("a cell that is not empty does not win", taken.winningCells(1), 0);
         Due.same("winningCells of an empty pond", new HexPond().winningCells(0), 0);
@@ -107,6 +112,33 @@ public final class WaysTest {
         HexPond full = Due.game("pond 3 by 3;stone red 0,0;stone red 1,0;stone red 2,0;stone blue 0,1;"
                 + "stone blue 1,1;stone blue 2,1;stone blue 0,2;stone blue 1,2;stone blue 2,2;");
         Due.same("winningCells of a full pond", full.winningCells(0), 0);
+    }
+
+    private static void eachCallSeesTheLatestStones() {
+        String two = "pond 3 by 3;stone red 0,1;stone red 1,1;";
+        Due.same("stonesNeeded(0) at once", Due.game(two).stonesNeeded(0), 1);
+        Due.same("stonesNeeded(1) at once", Due.game(two).stonesNeeded(1), 3);
+        Due.same("stonesNeededThrough() at once", Due.game(two).stonesNeededThrough(0, 2, 2), 2);
+        Due.same("isWinningCell() at once", Due.game(two).isWinningCell(0, 2, 1), true);
+        Due.same("winningCells() at once", Due.game(two).winningCells(0), 2);
+        Due.same("bridgesOf() at once", Due.game("stone red 1,1;stone red 2,2;").bridgesOf(0), 1);
+        Due.same("brokenBridgesOf() at once",
+                Due.game("stone red 1,1;stone red 2,2;stone blue 1,2;").brokenBridgesOf(0), 1);
+        HexPond pond = new HexPond();
+        Due.same("stonesNeeded(0) of 7 by 7", pond.stonesNeeded(0), 7);
+        Due.same("bridgesOf(0)", pond.bridgesOf(0), 0);
+        Due.teach(pond, "pond 4 by 5;");
+        Due.same("stonesNeeded(0) of 4 by 5", pond.stonesNeeded(0), 4);
+        Due.same("stonesNeeded(1) of 4 by 5", pond.stonesNeeded(1), 5);
+        pond.layStone(0, 2);
+        pond.layStone(3, 3);
+        pond.layStone(2, 1);
+        Due.same("winningCells(0)", pond.winningCells(0), 0);
+        Due.same("bridgesOf(0) with a bridge", pond.bridgesOf(0), 1);
+        Due.same("stonesNeeded(0) with a bridge", pond.stonesNeeded(0), 2);
+        pond.takeBack();
+        Due.same("bridgesOf(0) without it", pond.bridgesOf(0), 0);
+        Due.same("stonesNeededThrough(0, 0, 0) without it", pond.stonesNeededThrough(0, 0, 0), 4);
     }
 
     private static void wrongPlayersAndCells() {
