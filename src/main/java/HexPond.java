@@ -715,6 +715,7 @@ public final class HexPond {
             Kind move = tokens.kindOf(token);
             boolean isMove = move == Kind.WIN || move == Kind.GUARD || move == Kind.SAVE
                     || move == Kind.NEAR || move == Kind.AT;
+            // What is no move fails as a win that is missing here.
             need(isMove ? move : Kind.WIN);
             return move;
         }
@@ -765,6 +766,7 @@ public final class HexPond {
             Kind relation = tokens.kindOf(token);
             boolean isRelation = relation == Kind.LESS || relation == Kind.MORE || relation == Kind.EQUAL
                     || relation == Kind.AT_MOST || relation == Kind.AT_LEAST;
+            // What is no relation fails as a < that is missing here.
             need(isRelation ? relation : Kind.LESS);
             return relation;
         }
@@ -1125,7 +1127,7 @@ public final class HexPond {
         }
 
         int stones() {
-            return stonesOf(RED) + stonesOf(BLUE);
+            return stones[RED] + stones[BLUE];
         }
 
         int freeCells() {

@@ -120,6 +120,7 @@ public final class WaysTest {
         Due.same("stonesNeeded(1) at once", Due.game(two).stonesNeeded(1), 3);
         Due.same("stonesNeededThrough() at once", Due.game(two).stonesNeededThrough(0, 2, 2), 2);
         Due.same("isWinningCell() at once", Due.game(two).isWinningCell(0, 2, 1), true);
+        Due.same("isWinningCell() at once, elsewhere", Due.game(two).isWinningCell(0, 2, 2), false);
         Due.same("winningCells() at once", Due.game(two).winningCells(0), 2);
         Due.same("bridgesOf() at once", Due.game("stone red 1,1;stone red 2,2;").bridgesOf(0), 1);
         Due.same("brokenBridgesOf() at once",
