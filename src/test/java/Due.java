@@ -5,6 +5,9 @@ final class Due {
     private static int looked = 0;
     private static int wrong = 0;
 
+    /** Stands ahead of each wrong answer that is told. */
+    private static String heading = "";
+
     private Due() {
     }
 
@@ -48,7 +51,15 @@ final class Due {
 
     static void tell(String what) {
         wrong++;
-        System.out.println(what);
+        System.out.println(heading + what);
+    }
+
+    static void head(String newHeading) {
+        heading = newHeading;
+    }
+
+    static int wrong() {
+        return wrong;
     }
 
     /** Ends the test, with exit code 1 if an answer was not the one that is due. */
