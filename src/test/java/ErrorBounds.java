@@ -33,7 +33,8 @@ final class ErrorBounds {
         its.of("Promise 4", "Reads the tape as a game, in the place of all that was told before",
                 ErrorBounds::whatWasToldBeforeIsGone);
         its.of("Promise 4", "all begins anew, no stone can be taken back", ErrorBounds::nothingIsLeftToTakeBack);
-        its.of("Promise 4", "If it has an error, all stays (but the tape is empty)", ErrorBounds::allStaysBehindAnError);
+        its.of("Promise 4", "If it has an error, all stays (but the tape is empty)",
+                ErrorBounds::allStaysBehindAnError);
         its.of("Promise 4", "Returns 0, or the error, 1 to 5", ErrorBounds::teachTellsTheError);
         its.of("Promise 5", "Returns the position of the error of the latest teach()", ErrorBounds::theLatestPosition);
         its.of("Promise 5", "-1 if it had none, or there was none", ErrorBounds::noPositionWithoutAnError);

@@ -306,6 +306,7 @@ final class HangBounds {
         bridge("stone blue 2,1;stone blue 1,2;", 0, 0);
         bridge("stone blue 2,1;stone red 1,2;", 0, 0);
         bridge("stone red 2,1;stone blue 1,2;", 0, 0);
+        bridge("stone red 2,1;", 0, 0);
         bridge("stone red 1,2;", 0, 0);
     }
 
@@ -481,6 +482,8 @@ final class HangBounds {
         Due.same("isFrozen(2, 2) with a stone", pond.isFrozen(2, 2), false);
         pond.takeBack();
         Due.same("isFrozen(2, 2) without it", pond.isFrozen(2, 2), true);
+        pond.layStone(0, 0);
+        Due.same("isFrozen(2, 2) with a stone elsewhere", pond.isFrozen(2, 2), true);
         HexPond empty = Due.game("pond 3 by 3;");
         for (int cell = 0; cell < 9; cell++) {
             Due.same("isFrozen of an empty pond", empty.isFrozen(cell % 3, cell / 3), false);

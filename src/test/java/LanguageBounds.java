@@ -196,7 +196,8 @@ final class LanguageBounds {
         for (int sign = 0; sign < 256; sign++) {
             String byItself = String.valueOf((char) sign);
             if (isBlank(sign)) {
-                Due.same("rows() with " + sign, Due.game(byItself + "pond" + byItself + "3 by 4;" + byItself).rows(), 4);
+                HexPond pond = Due.game(byItself + "pond" + byItself + "3 by 4;" + byItself);
+                Due.same("rows() with " + sign, pond.rows(), 4);
             } else {
                 Due.error(byItself + "pond 3 by 4;", 1, 0);
                 Due.error("pond" + byItself + "3 by 4;", 1, isLetter(sign) || isDigit(sign) ? 0 : 4);
@@ -222,7 +223,9 @@ final class LanguageBounds {
         Due.error(PLAN + "1< =1;", 1, 21);
         Due.error(PLAN + "1> =1;", 1, 21);
         Due.error(PLAN + "1<==1;", 1, 21);
+        Due.error(PLAN + "1==1;", 1, 20);
         Due.error(PLAN + "1=<1;", 1, 20);
+        Due.error(PLAN + "1=>1;", 1, 20);
         Due.error(PLAN + "1<>1;", 1, 20);
         Due.error("stones red 1,1;", 1, 0);
         Due.error("pond 1234567 by 3;", 1, 5);
@@ -332,6 +335,8 @@ final class LanguageBounds {
             stones.append("stone red ").append(cell % 7).append(',').append(cell / 7).append(';');
         }
         Due.same("stonesOf(0) of 49 lines", Due.game(stones.toString()).stonesOf(0), 49);
+        Due.error(stones + ";", 1, stones.length());
+        Due.error(stones + "plan red win", 1, stones.length() + 12);
         Due.game(PLAN + "1=1" + Due.many("+1", 190) + ";");
         Due.game(PLAN + "1=1" + Due.many("*1/1", 95) + ";");
         Due.game(PLAN + "1=1" + Due.many(" and 1=1", 95) + ";");
@@ -421,13 +426,17 @@ final class LanguageBounds {
     // ---- feed, trim, and tapeBytes
 
     private static void eachByteHasItsPlace() {
-        for (int place = 0; place < 20; place++) {
-            int[] numbers = {0x20202020, 0x20202020, 0x20202020, 0x20202020, 0x20202020};
-            numbers[place / 4] |= 255 << (24 - 8 * (place % 4));
-            HexPond pond = new HexPond();
-            Due.same("feed", pond.feed(numbers[0], numbers[1], numbers[2], numbers[3], numbers[4]), 20);
-            Due.same("teach() of byte 255", pond.teach(), 1);
-            Due.same("errorAt() of byte 255 at " + place, pond.errorAt(), place);
+        // Without their highest bits, 160 would be a blank, and 138 a line end.
+        int[] noTokens = {255, 160, 138, 128, 0};
+        for (int noToken : noTokens) {
+            for (int place = 0; place < 20; place++) {
+                int[] numbers = {0x20202020, 0x20202020, 0x20202020, 0x20202020, 0x20202020};
+                numbers[place / 4] ^= (32 ^ noToken) << (24 - 8 * (place % 4));
+                HexPond pond = new HexPond();
+                Due.same("feed", pond.feed(numbers[0], numbers[1], numbers[2], numbers[3], numbers[4]), 20);
+                Due.same("teach() of byte " + noToken, pond.teach(), 1);
+                Due.same("errorAt() of byte " + noToken + " at " + place, pond.errorAt(), place);
+            }
         }
         HexPond pond = new HexPond();
         pond.feed('p' << 24 | 'o' << 16 | 'n' << 8 | 'd', ' ' << 24 | '9' << 16 | ' ' << 8 | 'b',
@@ -499,8 +508,12 @@ final class LanguageBounds {
         for (int n : wrongOfTwenty) {
             Due.refused(pond, "trim(" + n + ") of 20 bytes", IllegalArgumentException.class, () -> pond.trim(n));
         }
+        Due.same("trim(20)", pond.trim(20), 20);
         pond.trim(5);
         Due.refused(pond, "trim(6): what was cut off is gone", IllegalArgumentException.class, () -> pond.trim(6));
+        Due.same("trim(0)", pond.trim(0), 0);
+        Due.same("trim(0) of an empty tape", pond.trim(0), 0);
+        pond.feed(0, 0, 0, 0, 0);
         pond.teach();
         Due.refused(pond, "trim(1) behind teach()", IllegalArgumentException.class, () -> pond.trim(1));
     }

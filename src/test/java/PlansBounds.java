@@ -1,3 +1,5 @@
+import java.math.BigInteger;
+
 /** Boundary cases of plans, and of promises 34 to 41: each method is of one sentence. */
 final class PlansBounds {
     private static final String POND = "2. The pond";
@@ -64,7 +66,8 @@ final class PlansBounds {
         its.of("Promise 40", "0 without any", PlansBounds::theMeanOfNoneAndMany);
         its.of("Promise 41", "A number d starts with 953", PlansBounds::theDigestOfAnEmptyPond);
         its.of("Promise 41", "which wraps around as a 64-bit integer", PlansBounds::theDigestWrapsAround);
-        its.of("Promise 41", "the stones that this one needs (99 if there is no way)", PlansBounds::theDigestWithoutAWay);
+        its.of("Promise 41", "the stones that this one needs (99 if there is no way)",
+                PlansBounds::theDigestWithoutAWay);
         its.of("Promise 41", "for each cell 0 if it is empty, otherwise 1 and its player, added",
                 PlansBounds::theDigestOfFullCells);
     }
@@ -431,6 +434,7 @@ final class PlansBounds {
             // Over.
             RED_HAS_WON, BLUE_HAS_WON, FULL, RED_HAS_WON + "stone blue 0,0;stone blue 1,0;stone blue 2,0;"
                     + "stone blue 0,2;stone blue 1,2;",
+            BLUE_HAS_WON + "stone blue 0,0;stone red 0,1;stone red 0,2;stone red 2,0;stone red 2,1;",
             // This player has a winning cell, and the other one has none, or just one.
             "pond 3 by 3;stone red 0,1;stone red 1,1;stone blue 0,0;stone blue 2,2;",
             "pond 3 by 3;stone red 0,2;stone red 1,2;stone red 0,0;stone blue 2,0;stone blue 2,1;",
@@ -523,14 +527,24 @@ final class PlansBounds {
     }
 
     private static void theDigestWrapsAround() {
-        java.math.BigInteger d = java.math.BigInteger.valueOf(953);
-        long[] numbers = {9, 9, 0, 0, 0, 81, 0, 0, 0, 0, 0, 0, 0, 0, 0, 9, 0, 0, 0, 0, 0, 0, 0, 9};
-        for (int i = 0; i < numbers.length + 81; i++) {
-            long x = i < numbers.length ? numbers[i] : 0;
-            d = d.multiply(java.math.BigInteger.valueOf(31)).add(java.math.BigInteger.valueOf(x));
+        int negative = 0;
+        for (int columns = 3; columns <= 9; columns++) {
+            for (int rows = 3; rows <= 9; rows++) {
+                int cells = columns * rows;
+                long[] numbers = {columns, rows, 0, 0, 0, cells, 0, 0, 0, 0, 0, 0, 0, 0, 0, columns,
+                    0, 0, 0, 0, 0, 0, 0, rows};
+                BigInteger d = BigInteger.valueOf(953);
+                for (int i = 0; i < numbers.length + cells; i++) {
+                    long x = i < numbers.length ? numbers[i] : 0;
+                    d = d.multiply(BigInteger.valueOf(31)).add(BigInteger.valueOf(x));
+                }
+                Due.same("it is longer than 64 bits", d.bitLength() > 64, true);
+                negative += d.longValue() < 0 ? 1 : 0;
+                HexPond pond = Due.game("pond " + columns + " by " + rows + ";");
+                Due.same("digest() of " + columns + " by " + rows, pond.digest(), d.longValue());
+            }
         }
-        Due.same("it is longer than 64 bits", d.bitLength() > 64, true);
-        Due.same("digest() of 9 by 9", Due.game("pond 9 by 9;").digest(), d.longValue());
+        Due.same("some of them have the highest bit", negative > 0 && negative < 49, true);
     }
 
     private static void theDigestWithoutAWay() {
